@@ -8,7 +8,7 @@ import java.util.TreeSet;
 
 /**
  * Runs of calls by draws, on the program and on the document's plainest form beside it: each
- * answer, STATUS and FRACTION must be the same. Every STATUS that a promise names must come up.
+ * answer, STATUS and FRACTION must be the same. Every STATUS and FAULT that there is must come up.
  */
 final class ModelTest {
     private static final int RUNS = 1500;
@@ -26,6 +26,7 @@ final class ModelTest {
     private final Map<String, Method> calls = new TreeMap<>();
     private final Map<String, Method> plainCalls = new TreeMap<>();
     private final Map<String, TreeSet<Integer>> seen = new TreeMap<>();
+    private final Map<String, TreeSet<Integer>> faults = new TreeMap<>();
     private final List<String> names = new ArrayList<>();
 
     private FreckleChart chart;
@@ -41,6 +42,7 @@ final class ModelTest {
         }
         if (!test.expect.isWrong()) {
             test.checkStatuses();
+            test.checkFaults();
         }
         test.expect.end("ModelTest");
     }
@@ -100,6 +102,9 @@ final class ModelTest {
         }
         log.add(fed);
         call(name, fed.length());
+        if (plain.status() != 5) {
+            faults.computeIfAbsent(name, key -> new TreeSet<>()).add(plain.fault(0));
+        }
         call("fault", 0);
         call("fault", 1);
     }
@@ -194,6 +199,13 @@ final class ModelTest {
             return (Boolean) answer ? 1 : 0;
         }
         return ((Number) answer).longValue();
+    }
+
+    private void checkFaults() {
+        expect.holds("coast() had each FAULT: " + faults.get("coast"),
+                faults.get("coast").equals(new TreeSet<>(List.of(0, 1, 2, 3, 4, 5, 6))));
+        expect.holds("years() had each FAULT: " + faults.get("years"),
+                faults.get("years").equals(new TreeSet<>(List.of(0, 1, 2, 3, 4, 6, 7))));
     }
 
     private void checkStatuses() {

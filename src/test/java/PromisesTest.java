@@ -21,6 +21,7 @@ final class PromisesTest {
         t.newObject();
         t.trays();
         t.texts();
+        t.coastAgain();
         t.looks();
         t.deeds();
         t.voyages();
@@ -142,7 +143,9 @@ final class PromisesTest {
         refused(x.tray(-1, 0, 61), 1);
         refused(x.tray(4, 0, MIN), 1);
         told(x.read(0, 59), 7);
+        told(x.write(0, 0, 7));
         told(x.tray(0, 2, 60));
+        told(x.read(0, 0), 0);
         told(x.read(0, 59), 0);
 
         at(6);
@@ -199,6 +202,12 @@ final class PromisesTest {
             told(x.read(0, i), downwards[i]);
         }
         told(x.pour(0, 5, 1, 3, 0));
+        told(x.tray(3, 1, 0));
+        told(x.pour(3, 0, 3, 0, 0));
+        told(x.pour(0, 0, 3, 0, 0));
+        told(x.pour(3, 0, 0, 0, 0));
+        refused(x.pour(3, 0, 0, 0, 1), 4);
+        refused(x.pour(0, 0, 3, 0, 1), 4);
         refused(x.pour(0, 6, 1, 0, 0), 4);
         refused(x.pour(0, 0, 1, 4, 0), 4);
         refused(x.pour(0, 0, 1, 0, 4), 4);
@@ -210,11 +219,13 @@ final class PromisesTest {
         refused(x.pour(0, MIN, 1, 0, -1), 6);
         refused(x.pour(0, 0, 2, 0, -1), 11);
         refused(x.pour(0, 9, 2, 9, 9), 11);
+        told(x.read(1, 1), 13);
+        x = new FreckleChart();
+        told(x.tray(0, 1, 5));
         refused(x.pour(0, 9, 3, 9, -1), 3);
         refused(x.pour(3, 9, 0, 9, -1), 3);
         refused(x.pour(3, 0, 4, 0, 1), 1);
         refused(x.pour(-1, 0, 3, 0, 1), 1);
-        told(x.read(1, 1), 13);
     }
 
     private void texts() {
@@ -301,6 +312,36 @@ final class PromisesTest {
         told(x.years(0), 0);
         same(x.fault(0), 0);
         same(x.fault(1), -1);
+    }
+
+    /** Nothing of the coast ahead is left in the new one. */
+    private void coastAgain() {
+        at(10);
+        x = Texts.chart(SHORE, "sail ben 2 14 1; sail ben 2 14 9;");
+        told(x.veil(0, true));
+        told(x.ink(0, 2), 1);
+        told(x.live(0), 2);
+        told(x.mean(0, 2));
+        same(Texts.coast(x, "rock 1 deep 3; cousin ann at 1 wide 2 high 1;"), 1);
+        int[] many = {5, 4, 1, 1, 8, 0, 0, 0, cells(1)};
+        for (int what = 0; what < many.length; what++) {
+            told(x.many(what), many[what]);
+        }
+        int[] ann = {1, 2, 1, 0, 0, 0, cells(1, 2)};
+        for (int what = 0; what < ann.length; what++) {
+            told(x.cousin(0, what), ann[what]);
+        }
+        refused(x.deep(6), 8);
+        told(x.shown(0), 0);
+        told(x.coast(0), 0);
+        told(x.many(7), 0);
+        told(x.many(8), 0);
+        told(x.born(0, 5, 4), 0);
+        told(x.cousin(0, 3), 0);
+        told(x.cousin(0, 5), 0);
+        told(x.shown(0), 0);
+        same(Texts.years(x, "loop 1; loop 1; loop 1;"), -1);
+        same(Texts.years(x, "loop 1; end;"), 1);
     }
 
     private void looks() {
@@ -394,6 +435,9 @@ final class PromisesTest {
         x = Texts.chart("cousin al at 0 wide 1 high 1 tan 5 veiled;");
         told(x.rain(5), 0);
         told(x.cousin(0, 3), 5);
+        x = Texts.chart("cousin al at 0 wide 1 high 1 tan 1;");
+        told(x.rain(1), 1);
+        told(x.cousin(0, 3), 0);
 
         at(21);
         shore();
@@ -548,6 +592,19 @@ final class PromisesTest {
         // The side of a row is not beside the next row's other side.
         x = Texts.chart("coast 3 by 2; cousin al at 0 wide 3 high 2;");
         told(x.way(1, 2, 3), 4);
+        told(x.way(1, 3, 2), 4);
+        x = Texts.chart("coast 2 by 5; cousin al at 0 wide 2 high 5;");
+        told(x.way(1, 0, 8), 5);
+        told(x.way(1, 1, 2), 3);
+        told(x.way(1, 2, 1), 3);
+        told(x.way(1, 7, 8), 3);
+        told(x.way(1, 8, 7), 3);
+        // The edges are those of the coast that is there now.
+        same(Texts.coast(x, "coast 6 by 2; cousin al at 0 wide 6 high 2;"), 1);
+        told(x.way(1, 0, 5), 6);
+        told(x.way(1, 11, 6), 6);
+        told(x.way(1, 5, 6), 7);
+        told(x.way(1, 6, 5), 7);
 
         at(31);
         shore();
@@ -611,6 +668,8 @@ final class PromisesTest {
         refused(x.deepest(ANN, 0, 6), 8);
         refused(x.deepest(8, 0, 6), 5);
         refused(x.deepest(8, 15, 6), 2);
+        x = Texts.chart("coast 2 by 1; rock 1 deep 1; cousin al at 0 wide 2 high 1;");
+        told(x.deepest(1, 0, 1), 1);
         // Nobody pale sees a rock of depth 0; no ship goes over it.
         x = Texts.chart("coast 2 by 1; rock 1 deep 0; cousin al at 0 wide 2 high 1;");
         refused(x.deepest(1, 0, 1), 8);
@@ -706,6 +765,19 @@ final class PromisesTest {
         refused(x.fits(0, 1, 2, 6), 5);
         refused(x.fits(1, 99, 0, 0), 3);
         refused(x.fits(4, 1, 2, 2), 1);
+        places(-1);
+        refused(x.fits(0, 1, 1, 1), 5);
+        places(1, 5, 6);
+        told(x.fits(0, 0, 3, 2), 0);
+        told(x.fits(0, 2, 3, 2), 0);
+        refused(x.fits(0, 3, 3, 2), 5);
+        places(4);
+        told(x.fits(0, 1, 3, 2), 0);
+        places(5, 0, 1, 3);
+        told(x.fits(0, 3, 3, 2), 1);
+        told(x.fitsAt(0, 3, 3, 2, 0), 6);
+        refused(x.fitsAt(0, 3, 3, 2, 1), 8);
+        refused(x.fitsAt(0, 4, 3, 2, 0), 8);
         places(new int[30]);
         told(x.fits(0, 20, 2, 2), 0);
         refused(x.fits(0, 21, 2, 2), 5);
@@ -739,6 +811,13 @@ final class PromisesTest {
         // 0 of 2 have a rock in place 0, 1 of 2 in place 3.
         x = Texts.chart("coast 5 by 1; rock 3 deep 9;");
         told(x.ask(4, 1), 2);
+        x = Texts.chart("coast 3 by 3; rock 8 deep 9;");
+        told(x.ask(3, 2), 5);
+        told(x.ask(2, 3), 5);
+        // Rocks that no beginning has in that place count for nothing.
+        x = Texts.chart("coast 4 by 2; rock 3 deep 0; rock 6 deep 0; rock 7 deep 0;");
+        told(x.ask(3, 2), 2);
+        told(x.ask(1, 2), 1);
     }
 
     private void games() {
@@ -753,6 +832,18 @@ final class PromisesTest {
         refused(x.game(-1), 5);
         told(x.cousin(0, 3), 3);
         told(x.cousin(1, 3), 6);
+        // The rain takes 2 from one who has so many, and 1 from one who has 1.
+        x = Texts.chart("coast 1 by 1; rock 0 deep 0; cousin al at 0 wide 1 high 1;");
+        told(x.game(1), 1);
+        told(x.game(2), 0);
+        told(x.game(3), 1);
+        told(x.sun(0, 1), 1);
+        told(x.game(2), 0);
+        told(x.sun(0, 1), 2);
+        told(x.game(2), 1);
+        told(x.game(4), 0);
+        told(x.sun(0, 1), 3);
+        told(x.game(4), 1);
         // Ink counts where there is a rock; elsewhere it does not.
         x = Texts.chart("coast 2 by 1; rock 0 deep 9; cousin al at 0 wide 2 high 1 inked 0 1;");
         told(x.game(0), 1);

@@ -82,6 +82,7 @@ final class TextsTest {
         x = coast(2, ABC + "rock 0 deep 0; odds 0;");
         expect.same("odds", x.many(4), 0);
         coast(0, ROCKS);
+        coast(1, "cousin zaz at 0 wide 1 high 1;");
         coast(6, ABC + ABC.replace("a ", "c ").replace("b ", "d ").replace("ct", "at")
                 + ABC.replace("a ", "e ").replace("b ", "f "));
         coast(1, "cousin x at 0 wide 5 high 4 tan 0 inked 0 1 2 3 4 19;");
@@ -144,6 +145,14 @@ final class TextsTest {
         coastFault(2, "cousin x at 0 wide 1 high 1 |0;");
         coastFault(2, "cousin x at 0 wide 1 high 1 inked|");
         coastFault(2, "cousin |");
+        // The same in a cousin behind another one.
+        coastFault(2, ABC + "cousin x |wide 1 high 1;");
+        coastFault(2, ABC + "cousin x at 0 |high 1;");
+        coastFault(2, ABC + "cousin x at 0 wide 1 |;");
+        coastFault(4, ABC + "cousin x at |20 wide 1 high 1;");
+        coastFault(4, ABC + "cousin x at 0 wide |6 high 1;");
+        coastFault(4, ABC + "cousin x at 0 wide 1 high |5;");
+        coastFault(4, ABC + "cousin x at 0 wide 1 high 1 tan |10;");
     }
 
     private void coastNumbers() {
@@ -181,6 +190,7 @@ final class TextsTest {
         coastFault(5, "rock 3 deep 1; rock |3 deep 1;");
         coastFault(5, "rock 3 deep 1; rock |3 A");
         coastFault(5, "cousin x at 0 wide 5 high 2 inked 1 2 |1;");
+        coastFault(5, "cousin x at 0 wide 5 high 2 inked 3 |3;");
         coastFault(6, ROCKS + "|rock 15 deep 1;");
         coastFault(6, ROCKS + "odds 1;|rock 99;");
         coastFault(6, ABC + ABC.replace("a ", "c ").replace("b ", "d ").replace("ct", "at")

@@ -174,6 +174,13 @@ final class YearsTest {
         lives("loop 99; loop 99; loop 99; end; end; end;", 0, 300, 0, 0, 0, 0, 1);
         // The last step is a loop without a body: nothing is left behind it.
         lives(sun + sun + "loop 98; bare ann; end; loop 99; end;", 0, 300, 296, 0, 0, 0, 0);
+        // Nothing of it is left in the next years.
+        lives(sun + sun + sun + "stop;", 0, 300, 297, 0, 0, 0, 1);
+        Texts.years(x, "rain 1;");
+        livesOn("rain behind 300 steps", 0, 1, 0, 0, 0, 0, 0);
+        lives("loop 9; stop; end;", 0, 2, 0, 0, 0, 0, 0);
+        Texts.years(x, "when veiled cyd; bare cyd; end; any;");
+        livesOn("a when behind a loop that was left", 0, 3, 0, 0, 0, 0, 0);
     }
 
     private void means() {

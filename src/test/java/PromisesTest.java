@@ -317,10 +317,10 @@ final class PromisesTest {
     /** Nothing of the coast ahead is left in the new one. */
     private void coastAgain() {
         at(10);
-        x = Texts.chart(SHORE, "sail ben 2 14 1; sail ben 2 14 9;");
-        told(x.veil(0, true));
+        x = Texts.chart(SHORE, "sail ann 0 0 1; sail ann 7 7 6;");
         told(x.ink(0, 2), 1);
         told(x.live(0), 2);
+        told(x.veil(0, true));
         told(x.mean(0, 2));
         same(Texts.coast(x, "rock 1 deep 3; cousin ann at 1 wide 2 high 1;"), 1);
         int[] many = {5, 4, 1, 1, 8, 0, 0, 0, cells(1)};

@@ -19,6 +19,10 @@ final class Expect {
         same(what, got ? 1 : 0, 0);
     }
 
+    int asked() {
+        return asked;
+    }
+
     boolean isWrong() {
         return wrong > 0;
     }

@@ -272,6 +272,10 @@ final class BoundsOfDeeds extends Bounds {
         refused(8, c -> c.sail(CYD, 10, 10, 1));
         x = shore();
         told(x.sail(ANN, 0, 0, 10), 1);
+        told(x.sail(BEN, 14, 14, 10), 1);
+        chart("coast 6 by 5; cousin a at 0 wide 6 high 5;");
+        told(x.sail(1, 0, 29, 10), 1);
+        told(x.sail(1, 29, 0, 10), 1);
     }
 
     @Sentence(promise = 26, words = "A COUSIN more, bare, pale, whose PATCH begins in a CELL, so wide and"

@@ -184,6 +184,9 @@ final class BoundsOfGames extends Bounds {
         refused(2, c -> of(c.infant(3, 3, 16)));
         refused(2, c -> of(c.infant(0, 3, -1)));
         refused(2, Bounds::fresh, c -> of(c.infant(0, 0, 0)));
+        x = shore();
+        told(x.infant(2, 0, 15));
+        told(x.infant(0, 2, 0));
         changesTheFraction(c -> of(c.infant(0, 1, 1)));
     }
 
@@ -244,6 +247,9 @@ final class BoundsOfGames extends Bounds {
         refused(2, c -> of(c.fades(MIN, 0)));
         refused(2, c -> of(c.fades(MAX, 0)));
         refused(2, Bounds::fresh, c -> of(c.fades(0, 0)));
+        x = shore();
+        told(x.fades(2, 0));
+        told(x.fades(2, 15));
         changesTheFraction(c -> of(c.fades(1, 1)));
     }
 

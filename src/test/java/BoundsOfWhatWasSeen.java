@@ -146,6 +146,10 @@ final class BoundsOfWhatWasSeen extends Bounds {
 
     @Sentence(promise = 41, words = "STATUS of a call is the first of these that holds")
     void theTrayBeforeItsNumbersBeforeTheSize() {
+        for (int tray = 0; tray < 4; tray++) {
+            told(x.tray(tray, tray, 1));
+            told(x.fits(tray, 1, 1, 1), 0);
+        }
         refused(1, c -> c.fits(-1, 0, 1, 1));
         refused(1, c -> c.fits(4, 0, 1, 1));
         refused(1, c -> c.fits(4, 99, 0, 0));

@@ -241,6 +241,22 @@ final class BoundsOfDeeds extends Bounds {
         refused(5, c -> c.sail(ANN, 0, 12, MAX));
     }
 
+    @Sentence(promise = 25, words = "STRIKES in the first CELL of it in which a ROCK has a DEPTH below"
+            + " DRAFT.")
+    void aShipStrikesInTheFirstAndInTheLastCell() {
+        chart("coast 6 by 5; rock 0 deep 4; rock 29 deep 5; cousin a at 0 wide 6 high 5;");
+        told(x.sail(1, 0, 1, 4), 1);
+        told(x.sail(1, 0, 1, 5), 0);
+        told(x.sail(1, 1, 0, 5), 0);
+        told(x.sail(1, 0, 0, 5), 0);
+        told(x.sail(1, 28, 29, 5), 1);
+        told(x.sail(1, 28, 29, 6), 0);
+        told(x.sail(1, 29, 29, 6), 0);
+        told(x.sail(1, 1, 28, 10), 1);
+        told(x.many(5), 5);
+        told(x.many(6), 3);
+    }
+
     @Sentence(promise = 25, words = "5 a number that can't be (a set with what there is none of, a number in"
             + " a TRAY, too).")
     void aShipByASetOfCousins() {

@@ -75,6 +75,12 @@ final class BoundsOfGames extends Bounds {
         games(0, 1, 0, 1, 0);
         told(x.sun(1, 1), 2);
         games(1, 2, 1, 1, 0);
+        // Who is taken from 1 to 0 comes back by one sun.
+        chart("coast 2 by 1; rock 0 deep 0; rock 1 deep 0; cousin a at 0 wide 1 high 1 tan 1;"
+                + " cousin b at 1 wide 1 high 1 tan 1;");
+        games(2, 2, 1, 2, 1);
+        chart("coast 6 by 5; rock 0 deep 0; rock 29 deep 0; cousin a at 0 wide 6 high 5;");
+        games(0, 2, 0, 2, 0);
     }
 
     @Sentence(promise = 45, words = "MOVE: the COUSIN (5: turns 0, too; 8: nothing).")

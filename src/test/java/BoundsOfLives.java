@@ -120,6 +120,11 @@ final class BoundsOfLives extends Bounds {
                 5, 5, 0, 0, 0, 0);
         told(x.many(5), 0);
         told(x.many(6), 0);
+        String large = "coast 6 by 5; rock 0 deep 4; rock 29 deep 4; cousin ann at 0 wide 6 high 5;";
+        lives(large, "sail ann 0 1 5; sail ann 1 0 5; sail ann 28 29 5; sail ann 29 29 4;"
+                + " sail ann 0 29 4; sail ann 1 28 10;", 6, 0, 3, 3, 0, 0);
+        told(x.many(5), 3);
+        told(x.many(6), 3);
         // By that cousin alone: what others have charted, what shows on them, is nothing to it.
         lives(coast, "sail cyd 0 3 3; sail cyd 0 3 4; sail cyd 3 3 1;", 3, 0, 1, 2, 0, 0);
     }
@@ -402,7 +407,16 @@ final class BoundsOfLives extends Bounds {
         refused(5, c -> of(c.mean(0, -1)));
         refused(5, c -> of(c.mean(0, MIN)));
         refused(5, c -> of(c.mean(0, MAX)));
+        refused(5, c -> of(c.mean(1, 0)));
+        refused(5, c -> of(c.mean(9999, 0)));
+        refused(5, c -> of(c.mean(10000, 0)));
+        refused(5, c -> of(c.mean(5, -1)));
+        refused(5, c -> of(c.mean(9999, -9999)));
+        refused(5, c -> of(c.mean(5, 21)));
         refused(5, c -> of(c.mean(-1, 1)));
+        refused(5, c -> of(c.mean(-1, 2)));
+        refused(5, c -> of(c.mean(-1, 20)));
+        refused(5, c -> of(c.mean(-19, 20)));
         refused(5, c -> of(c.mean(MIN, 1)));
         refused(5, c -> of(c.mean(MAX, 1)));
         refused(5, c -> of(c.mean(MAX, 20)));

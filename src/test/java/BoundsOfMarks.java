@@ -105,6 +105,49 @@ final class BoundsOfMarks extends Bounds {
                 + " high 1; cousin d at 0 wide 1 high 1; cousin e at 0 wide 1 high 1;"));
     }
 
+    @Sentence(promise = 53, words = "all is taken back to the latest MARK")
+    void coastsOfAllSizesAreTakenBack() {
+        chart("coast 6 by 2; odds 3; rock 11 deep 2; rock 0 deep 9; cousin ann at 5 wide 1 high 2"
+                + " tan 1; cousin ben at 0 wide 6 high 2 tan 4 veiled inked 3;", "rain 1; any; stop;");
+        told(x.sail(1, 5, 5, 1), 1);
+        told(x.sail(1, 5, 11, 3), 0);
+        told(x.sail(1, 11, 5, 3), 0);
+        String first = some();
+        told(x.mark(), 1);
+        told(Texts.coast(x, "coast 1 by 5; odds 16; cousin dot at 4 wide 1 high 1 tan 9;"), 1);
+        told(Texts.years(x, "sail dot 4 4 1;"), 1);
+        told(x.live(0), 1);
+        String second = some();
+        told(x.mark(), 2);
+        told(x.coast(0), 0);
+        told(x.rule(0));
+        String third = some();
+        told(x.mark(), 3);
+        told(Texts.coast(x, "coast 6 by 5;"), 0);
+        told(x.back(), 2);
+        same("what is taken back", some().equals(third) ? 1 : 0, 1);
+        same("live", x.live(0), NONE);
+        told(x.back(), 1);
+        same("what is taken back", some().equals(second) ? 1 : 0, 1);
+        told(x.live(0), 1);
+        told(x.many(6), 2);
+        told(x.back(), 0);
+        same("what is taken back", some().equals(first) ? 1 : 0, 1);
+        told(x.live(0), 3);
+    }
+
+    /** Less of a coast than all, for charts with many calls. */
+    private String some() {
+        StringBuilder some = new StringBuilder();
+        for (int what = 0; what < 9; what++) {
+            some.append(x.many(what)).append(' ');
+        }
+        for (int what = 0; what < 7; what++) {
+            some.append(x.cousin(0, what)).append(' ').append(x.cousin(1, what)).append(' ');
+        }
+        return some.append(x.rock(0, 0)).append(' ').append(x.rock(1, 1)).toString();
+    }
+
     @Sentence(promise = 53, words = "the YEARS are kept as they are")
     void theYearsAreTakenBack() {
         chart(SHORE);

@@ -180,6 +180,22 @@ final class BoundsOfTrays extends Bounds {
         told(x.read(3, 59), Long.MAX_VALUE);
     }
 
+    @Sentence(promise = 8, words = "on of a TRAY come to place j on of another one, or the same")
+    void fromEachTrayToEach() {
+        for (int tray = 0; tray < 4; tray++) {
+            for (int to = 0; to < 4; to++) {
+                for (int i = 0; i < 4; i++) {
+                    row(i, 2, 10 * i, 10 * i + 1);
+                }
+                told(x.pour(tray, 1, to, 0, 1));
+                for (int i = 0; i < 4; i++) {
+                    holds(i, i == to ? 10 * tray + 1 : 10 * i, 10 * i + 1);
+                }
+                x = new FreckleChart();
+            }
+        }
+    }
+
     @Sentence(promise = 8, words = "or the same, as they were")
     void numbersAreAsTheyWere() {
         row(0, 0, 1, 2, 3, 4, 5);

@@ -57,6 +57,12 @@ final class BoundsOfWays extends Bounds {
         told(x.open(0), 0);
         told(x.open(ANN), set(0, 1, 2, 5, 7, 10, 11, 12));
         told(x.open(7), (1 << 15) - 1 - set(4, 6, 7, 13));
+        chart("coast 6 by 5; cousin a at 0 wide 6 high 5 inked 29;");
+        told(x.open(1), (1 << 29) - 1);
+        told(x.wash(0), 1);
+        told(x.open(1), (1 << 30) - 1);
+        told(x.ink(0, 0), 1);
+        told(x.open(1), (1 << 30) - 2);
         refused(5, c -> c.open(8));
         refused(5, c -> c.open(-1));
         refused(5, c -> c.open(MIN));
@@ -252,6 +258,9 @@ final class BoundsOfWays extends Bounds {
         same("STATUS", x.status(), 8);
         same("strikes", x.strikes(1, 0, 2, 1), NONE);
         same("STATUS", x.status(), 8);
+        chart("coast 6 by 5; rock 29 deep 5; rock 0 deep 5; cousin a at 0 wide 6 high 5;");
+        told(x.strikes(1, 1, 29, 6), 29);
+        told(x.strikes(1, 1, 0, 6), 0);
     }
 
     @Sentence(promise = 32, words = "In which CELL of the WAY a ship with a DRAFT (1 to 10) would STRIKE (2;"
@@ -305,6 +314,16 @@ final class BoundsOfWays extends Bounds {
             }
             fewest(0, 0, 10, 1);
         }
+        chart("coast 6 by 5; rock 29 deep 5; rock 0 deep 5; cousin a at 0 wide 6 high 5;");
+        fewest(0, 29, 5, 1);
+        noneAreSafe(0, 1, 6);
+        noneAreSafe(1, 0, 6);
+        noneAreSafe(1, 29, 6);
+        noneAreSafe(29, 1, 6);
+        fewest(1, 28, 10, 1);
+        told(x.deepest(1, 0, 1), 5);
+        told(x.deepest(1, 1, 0), 5);
+        told(x.deepest(1, 28, 29), 5);
     }
 
     @Sentence(promise = 33, words = "FEWEST: how many (2; 5; 8: none are SAFE).")

@@ -344,15 +344,14 @@ abstract class Bounds {
         FreckleChart first = pair();
         same(what, call.on(first), NONE);
         same("the tape behind " + what, first.feed(0, 0, 0, 0, 0), 20);
-        for (Watch watch : new Watch[] {Bounds::lookAtFraction, Bounds::lookAtCoast,
-            Bounds::lookAtTrays, Bounds::lookAtWhatIsTold, Bounds::lookAtTape, Bounds::lookAtYears, Bounds::lookAtNames, Bounds::lookAtMarks}) {
+        for (Watch watch : ALL) {
             FreckleChart c = pair();
             FreckleChart twin = pair();
-            // The twin tells the same FAULT, so that all the rest can be compared.
             same(what, call.on(c), NONE);
             same("STATUS of " + what, c.status(), 10);
             same("fault(0) of " + what, c.fault(0), fault);
             same("fault(1) of " + what, c.fault(1), place);
+            // The twin tells the same FAULT, and is what it was ahead of it by its mark.
             call.on(twin);
             twin.back();
             twin.mark();

@@ -5,7 +5,8 @@ import java.lang.reflect.Modifier;
 /** Every call with every choice of edge numbers, on a few charts: none throws, all end. */
 final class ExtremesTest {
     private static final int[] EDGES = {Integer.MIN_VALUE, -1, 0, 1, 5, 16, 63, Integer.MAX_VALUE};
-    private static final int CALLS_A_CHART = 400;
+    // With status() and bottom() behind each call that stays below 512.
+    private static final int CALLS_A_CHART = 160;
 
     private final Expect expect = new Expect();
     private FreckleChart chart;

@@ -11,8 +11,9 @@ import java.util.TreeSet;
  * answer, STATUS and FRACTION must be the same. Every STATUS and FAULT that there is must come up.
  */
 final class ModelTest {
-    private static final int RUNS = 1500;
-    private static final int CALLS = 500;
+    private static final int RUNS = 6000;
+    // The document promises 512; a call and what is asked behind it may take four.
+    private static final int MOST_CALLS = 508;
     /** What STATUS beside 0 each call can have by its promise. */
     private static final String STATUSES = "tray:1,5,6 write:1,3,4 read:1,3,4 pour:1,3,4,6,11"
             + " coast:5,10 years:5,10 many:5 rock:2,5 deep:2,8 cousin:2,5 shown:2 copyTan:1,3,4"
@@ -33,6 +34,7 @@ final class ModelTest {
     private PlainChart plain;
     private Draws d;
     private List<String> log;
+    private int called;
 
     public static void main(String[] args) throws ReflectiveOperationException {
         ModelTest test = new ModelTest();
@@ -66,13 +68,14 @@ final class ModelTest {
         chart = new FreckleChart();
         plain = new PlainChart();
         log = new ArrayList<>();
+        called = 0;
         if (number % 10 != 0) {
             text("coast", Texts.drawnCoast(d));
         }
         if (number % 3 != 0) {
             text("years", Texts.drawnYears(d, plain.cells(), plain.cousins()));
         }
-        while (log.size() < CALLS && !expect.isWrong()) {
+        while (called < MOST_CALLS && !expect.isWrong()) {
             String name = names.get(d.below(names.size()));
             if (name.equals("coast") && d.oneIn(6)) {
                 String text = Texts.drawnCoast(d);
@@ -93,6 +96,11 @@ final class ModelTest {
     }
 
     private void text(String name, String text) throws ReflectiveOperationException {
+        if (called + text.length() / 20 + 20 > MOST_CALLS) {
+            // There are too few calls left for the text.
+            call("mark");
+            return;
+        }
         if (plain.taped() > 0) {
             call("coast", plain.taped());
         }
@@ -186,10 +194,15 @@ final class ModelTest {
         log.add(name + java.util.Arrays.toString(arguments) + " due " + due + ", " + plain.status());
         String what = log.get(log.size() - 1);
         expect.same(what, number(got), number(due));
+        called++;
+        if (name.equals("feed")) {
+            return;
+        }
+        called += 3;
         expect.same(what + ", STATUS", chart.status(), plain.status());
         expect.same(what + ", top()", chart.top(), plain.top());
         expect.same(what + ", bottom()", chart.bottom(), plain.bottom());
-        if (!name.equals("status") && !name.equals("fault") && !name.equals("feed")) {
+        if (!name.equals("status") && !name.equals("fault")) {
             seen.get(name).add(plain.status());
         }
     }

@@ -96,6 +96,7 @@ abstract class Bounds {
     /** A chart on which everything has been used: only half full of all. */
     static FreckleChart shore() {
         FreckleChart c = Texts.chart(SHORE, "sail ann 0 12 6; sun ben 2; rain 1; any;");
+        faultyCoast(c);
         c.tray(0, 1, 3);
         c.write(0, 0, 2);
         c.write(0, 1, 99);
@@ -127,6 +128,7 @@ abstract class Bounds {
         text.append("cousin dot at 0 wide 5 high 4 veiled;cousin eve at 0 wide 1 high 1;");
         text.append("cousin fay at 0 wide 1 high 1 inked 0;");
         FreckleChart c = Texts.chart(text.toString(), "any;".repeat(30));
+        faultyCoast(c);
         for (int i = 0; i < 4; i++) {
             c.tray(i, i, 60);
         }
@@ -145,12 +147,21 @@ abstract class Bounds {
         }
     }
 
+    /** A coast with a fault at its end, by which nothing may become otherwise. */
+    private static void faultyCoast(FreckleChart c) {
+        Texts.coast(c, "coast 2 by 1; odds 0; rock 1 deep 9; cousin a at 0 wide 1 high 1 veiled;"
+                + "cousin b at 0 wide 1 high 1;cousin d at 0 wide 1 high 1 tan 9 inked 0;"
+                + "cousin e at 1 wide 1 high 1;cousin f at 1 wide 1 high 1; ;");
+    }
+
     final void chart(String text) {
         x = Texts.chart(text);
+        faultyCoast(x);
     }
 
     final void chart(String text, String years) {
         x = Texts.chart(text, years);
+        faultyCoast(x);
     }
 
     // ---- calls that are refused

@@ -81,7 +81,7 @@ final class BoundsOfANewObject extends Bounds {
         same("call 511", x.many(3), 0);
         same("call 512", x.status(), 0);
         chart("coast 1 by 1; cousin a at 0 wide 1 high 1;", "loop 99; sail a 0 0 1; end; any;");
-        for (int i = 0; i < 499; i++) {
+        for (int i = 0; i < 480; i++) {
             same("live", x.live(i), 101);
         }
         // Nobody sails by who is veiled, so it is by the draws how many came in.

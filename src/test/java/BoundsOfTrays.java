@@ -310,6 +310,23 @@ final class BoundsOfTrays extends Bounds {
         }, c -> c.copyTan(0));
     }
 
+    @Sentence(promise = 18, words = "or too few numbers.")
+    void asManyNumbersAsCousins() {
+        for (int i = 0; i < 6; i++) {
+            told(x.tray(0, 0, i));
+            told(x.copyTan(0), i);
+            told(x.born(0, 1, 1), i);
+            same("one too few", x.copyTan(0), NONE);
+            same("STATUS", x.status(), 4);
+        }
+        told(x.tray(0, 0, 6));
+        told(x.copyTan(0), 6);
+        chart("rock 0 deep 1; rock 1 deep 1; cousin a at 0 wide 1 high 1 tan 7;");
+        row(0, 0, 50);
+        told(x.copyTan(0), 1);
+        holds(0, 7);
+    }
+
     @Sentence(promise = 18, words = "TAN of all COUSINS comes to a TRAY, by numbers: how many (1; 3; 4).")
     void tanOfNobodyInAnEmptyTray() {
         refused(3, Bounds::fresh, c -> c.copyTan(3));

@@ -117,6 +117,20 @@ final class BoundsOfWhatWasSeen extends Bounds {
         fits(2, 2, 3);
         places(0, 3);
         fits(2, 2, 3, 0);
+        chart("coast 1 by 5; rock 4 deep 0; rock 2 deep 0;");
+        places(2, 0, 4);
+        fits(1, 1, 4, 0);
+        fits(2, 1, 3, 2);
+        fits(3, 1, 5);
+        fits(0, 1, 1, 0, 1, 3);
+        fits(0, 1, 2, 0);
+        chart("coast 5 by 1; rock 4 deep 0; rock 2 deep 0;");
+        places(2, 0, 4);
+        fits(1, 4, 1, 0);
+        fits(2, 3, 1, 2);
+        fits(3, 5, 1);
+        fits(0, 1, 1, 0, 1, 3);
+        fits(0, 2, 1, 0);
         chart("coast 6 by 5; rock 29 deep 9;");
         places(29);
         fits(1, 6, 5, 0);
@@ -233,6 +247,17 @@ final class BoundsOfWhatWasSeen extends Bounds {
         // Of four beginnings 3 have one in place 0, 3 in place 1: the first counts.
         chart("coast 5 by 1; rock 0 deep 1; rock 1 deep 1; rock 2 deep 1; rock 4 deep 1;");
         told(x.ask(2, 1), 0);
+        // Patches, coasts that are higher than wide, and wider than high.
+        chart("coast 1 by 5; rock 4 deep 0;");
+        told(x.ask(1, 4), 3);
+        told(x.ask(1, 2), 1);
+        same("one beginning", x.ask(1, 5), NONE);
+        same("STATUS", x.status(), 8);
+        chart("coast 6 by 1; rock 5 deep 0;");
+        told(x.ask(5, 1), 4);
+        chart("coast 2 by 5; rock 9 deep 0;");
+        told(x.ask(2, 4), 7);
+        told(x.ask(1, 4), 3);
         // The last place of the greatest patch.
         chart("coast 6 by 5; rock 29 deep 0;");
         told(x.ask(5, 5), 24);

@@ -10,6 +10,8 @@ import java.util.ArrayList;
 import java.util.Arrays;
 import java.util.List;
 import java.util.TreeSet;
+import java.util.regex.Matcher;
+import java.util.regex.Pattern;
 
 /** The rules of LANGUAGE.md, as far as a look at the source and at the classes can tell. */
 final class LanguageTest {
@@ -27,7 +29,7 @@ final class LanguageTest {
     private static final String LONGS = "top bottom read";
     private static final String BOOLEANS = "tray write pour veil rule infant fades freckled mean";
     private static final String FORBIDDEN = "throw throws try catch finally synchronized assert"
-            + " instanceof import package native volatile transient strictfp var yield";
+            + " instanceof import package native volatile transient strictfp var yield double float";
 
     private final Expect expect = new Expect();
 
@@ -118,6 +120,7 @@ final class LanguageTest {
         for (String word : bare.split("[^A-Za-z0-9_]+")) {
             expect.fails("the word " + word, Arrays.asList(FORBIDDEN.split(" ")).contains(word));
         }
+        library(bare);
         expect.fails("a lambda or a method reference", bare.contains("->") || bare.contains("::"));
         expect.fails("an annotation", bare.contains("@"));
         for (char c : text.toCharArray()) {
@@ -126,6 +129,31 @@ final class LanguageTest {
             }
         }
         lengths(bare);
+    }
+
+    /** Rules 3 and 4: no class but its own and those listed, and of these only what is listed. */
+    private void library(String bare) {
+        TreeSet<String> known = new TreeSet<>(Arrays.asList("FreckleChart", "String", "Math",
+                "Integer", "System"));
+        for (Class<?> c : FreckleChart.class.getDeclaredClasses()) {
+            known.add(c.getSimpleName());
+        }
+        Matcher name = Pattern.compile("\\b[A-Z][A-Za-z]*[a-z][A-Za-z]*\\b").matcher(bare);
+        while (name.find()) {
+            expect.holds("the class " + name.group(), known.contains(name.group()));
+        }
+        Matcher call = Pattern.compile("\\b(Math|Integer|System)\\s*\\.\\s*(\\w+)").matcher(bare);
+        while (call.find()) {
+            String called = call.group(2);
+            boolean listed = call.group(1).equals("System") ? called.equals("arraycopy")
+                    : !called.endsWith("Exact");
+            expect.holds("the library's " + call.group(), listed);
+        }
+        Matcher made = Pattern.compile("\\bnew\\s+(\\w+)").matcher(bare);
+        while (made.find()) {
+            String type = made.group(1);
+            expect.holds("new " + type, known.contains(type) || type.matches("int|long|byte"));
+        }
     }
 
     /** How long each method is: from the line that opens it at depth 1 or 2 to the one that ends. */
